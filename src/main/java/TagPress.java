@@ -688,13 +688,14 @@ public final class TagPress {
         }
 
         private void checkHead(int kind, int chunkBytes) {
+            // below 0, and so below every size, when the head itself is not whole
             int left = source.count - at - Chunk.HEAD_BYTES;
             boolean hasData = kind == Chunk.BLOCK_KIND || kind == Chunk.PLAIN_KIND;
             if (at == 0 && kind != Chunk.MARK_KIND) {
                 fail(8, at);
             } else if (!hasData && kind < Chunk.FIRST_FREE_KIND) {
                 fail(9, at);
-            } else if (left < 0 || chunkBytes > left) {
+            } else if (chunkBytes > left) {
                 fail(7, source.count);
             } else if (hasData && chunkBytes < Chunk.SUM_BYTES) {
                 fail(10, at);

@@ -471,8 +471,8 @@ public final class TagPressPromises {
         due("place", x.place(), 1797);
         x = new TagPress();
         add(x, "132 14 244 255 6");
-        x.write(0x0B0C0D0E0F101112L, 8);
-        x.again(8, 223);
+        x.write(0x0B0C0D0E00000000L, 8);
+        x.again(1, 1784);
         add(x, "225 0");
         due("k 1 of 1,792", x.unpack(10000), 1796);
         due("the first again", x.byteAt(1792), 11);
