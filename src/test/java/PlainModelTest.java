@@ -7,7 +7,7 @@ import java.util.Random;
  * every place for a match, and weighs every way to split a match into copies.
  * The seeds are fixed, so every run is the same.
  */
-public final class TagPressAgainstPlain {
+public final class PlainModelTest {
     private static int wrong = 0;
     private static int compared = 0;
 
