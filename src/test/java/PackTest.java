@@ -12,6 +12,7 @@ public final class PackTest {
         wayWaiting();
         nearCopies();
         farCopies();
+        manyMatches();
         fullRows();
         Tests.end();
     }
@@ -129,6 +130,10 @@ public final class PackTest {
         packsInAllWays("a match that ends where its own bytes begin", "'abcdeabcde1'", "11 16 'abcde' 5 5 0 '1'");
         packsInAllWays("bytes of 128 and more are alike as others are", "255 128 254 129 255 128 254 129", "8 12 255 128 254 129 1 4");
         packsInAllWays("bytes that differ by 128 are not alike", "1 2 3 4 129 130 131 132", "8 28 1 2 3 4 129 130 131 132");
+        packsInAllWays("four bytes of which the first is another are no match", "'abcd1xbcd2'", "10 36 'abcd1xbcd2'");
+        packsInAllWays("four bytes of which the second is another are no match", "'abcd1axcd2'", "10 36 'abcd1axcd2'");
+        packsInAllWays("four bytes of which the third is another are no match", "'abcd1abxd2'", "10 36 'abcd1abxd2'");
+        packsInAllWays("four bytes of which the last is another are no match", "'abcd1abcx2'", "10 36 'abcd1abcx2'");
         packsInAllWays("four bytes in another order are no match", "'abcd1dcba'", "9 32 'abcd1dcba'");
         packsInAllWays("a match begins at the first place that has one", "'1abcd2abcd'", "10 20 '1abcd2' 1 5");
         packsInAllWays("it goes on behind the match, not within it", "'abcdbcde1abcdbcde'", "17 32 'abcdbcde1' 17 9");
@@ -263,6 +268,25 @@ public final class PackTest {
                 x.dueLongOut(n % 128 + 128 + " " + n / 128 + " " + literals + " " + data + elements);
             });
         }
+    }
+
+    /** 1,991 matches of 4 bytes are nearer than the only one of 10. */
+    private static void manyMatches() {
+        String head = "249 77 40 'abcdefghij1' 1 11 0 '2' " + Bytes.times(155, "254 5 0") + "118 5 0 0 '3' ";
+        farAmongMany(0, head + "1 6 22 239 38");
+        farAmongMany(1, head + "38 239 38");
+        farAmongMany(2, head + "38 239 38");
+        farAmongMany(3, head + "38 239 38");
+    }
+
+    private static void farAmongMany(int way, String out) {
+        Tests.test("6: of all matches, however many they are, way " + way, () -> {
+            Press x = new Press("'abcdefghij1abcd2'");
+            x.again(5, 1990);
+            x.put("'3abcdefghij'");
+            Tests.due("pack", x.pack(way), Bytes.count(out));
+            x.dueLongOut(out);
+        });
     }
 
     private static void fullRows() {

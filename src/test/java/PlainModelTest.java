@@ -8,46 +8,51 @@ import java.util.Random;
  * The seeds are fixed, so every run is the same.
  */
 public final class PlainModelTest {
-    private static int wrong = 0;
     private static int compared = 0;
 
     public static void main(String[] args) {
+        Tests.begin();
         for (int seed = 0; seed < 400; seed++) {
-            writeAndReadBack(new Random(seed), "written " + seed, 300);
+            Random random = new Random(seed);
+            Tests.test("written " + seed, () -> writeAndReadBack(random, 300));
         }
         for (int seed = 0; seed < 12; seed++) {
-            writeAndReadBack(new Random(1000 + seed), "long " + seed, 10000);
+            Random random = new Random(1000 + seed);
+            Tests.test("long " + seed, () -> writeAndReadBack(random, 10000));
         }
         for (int seed = 0; seed < 4000; seed++) {
-            readSpoilt(new Random(seed), "spoilt " + seed);
-        }
-        for (int seed = 0; seed < 4000; seed++) {
-            readMadeUp(new Random(seed), "made up " + seed);
+            Random random = new Random(seed);
+            Tests.test("spoilt " + seed, () -> readSpoilt(random));
+            Tests.test("made up " + seed, () -> readMadeUp(random));
         }
         for (int length = 4; length < 400; length++) {
-            splitMatch(length, 5);
-            splitMatch(length, 2047);
-            splitMatch(length, 2048);
+            for (int distance : new int[] {5, 2047, 2048}) {
+                int each = length;
+                Tests.test("match of " + length + " from " + distance, () -> splitMatch(each, distance));
+            }
         }
         for (int literals = 1; literals < 400; literals++) {
-            runOfLiterals(literals);
+            int each = literals;
+            Tests.test(literals + " literals", () -> runOfLiterals(each));
         }
-        System.out.println(compared + " answers compared, " + wrong + " not as due");
-        if (wrong != 0) {
-            System.exit(1);
-        }
+        System.out.println(compared + " answers compared");
+        Tests.end();
     }
 
     // ---- kinds of runs
 
-    private static void writeAndReadBack(Random random, String name, int most) {
-        Both both = new Both(name);
+    private static void writeAndReadBack(Random random, int most) {
+        Both both = new Both();
         fill(both, random, most);
         both.sum();
         for (int way = -1; way <= 4; way++) {
             both.pack(way);
+            if (way >= 0 && way <= 3 && both.plain.out.length > 0) {
+                both.lookAtAllOfOut();
+                both.read(false, 10000);
+                both.turn();
+            }
         }
-        both.pack(random.nextInt(4));
         both.chunks(1 + random.nextInt(1 + random.nextInt(most)), random.nextInt(4), random.nextInt(3) * 100);
         boolean stream = random.nextBoolean();
         if (stream) {
@@ -55,17 +60,15 @@ public final class PlainModelTest {
         } else {
             both.pack(random.nextInt(4));
         }
-        both.turn();
-        both.sum();
+        both.lookAtAllOfOut();
         both.read(stream, 10000);
         both.read(stream, random.nextInt(most));
-        both.turn();
-        both.sum();
+        both.lookAtAllOfOut();
     }
 
-    private static void readSpoilt(Random random, String name) {
+    private static void readSpoilt(Random random) {
         Plain plain = new Plain();
-        Both source = new Both(name);
+        Both source = new Both();
         fill(source, random, 60);
         plain.in = source.plain.in;
         boolean stream = random.nextInt(3) > 0;
@@ -84,15 +87,15 @@ public final class PlainModelTest {
         for (int k = random.nextInt(3); k > 0 && bytes.length > 0; k--) {
             bytes[random.nextInt(bytes.length)] = (byte) someByte(random);
         }
-        Both both = new Both(name);
+        Both both = new Both();
         both.load(bytes);
         both.read(stream, 10000);
         both.read(stream, random.nextInt(80));
         both.read(!stream, 10000);
     }
 
-    private static void readMadeUp(Random random, String name) {
-        Both both = new Both(name);
+    private static void readMadeUp(Random random) {
+        Both both = new Both();
         byte[] bytes = new byte[random.nextInt(24)];
         for (int k = 0; k < bytes.length; k++) {
             bytes[k] = (byte) someByte(random);
@@ -121,7 +124,7 @@ public final class PlainModelTest {
         for (int k = distance; k < bytes.length; k++) {
             bytes[k] = bytes[k - distance];
         }
-        Both both = new Both("match of " + length + " from " + distance);
+        Both both = new Both();
         both.load(bytes);
         both.pack(2);
         both.turn();
@@ -133,7 +136,7 @@ public final class PlainModelTest {
         for (int k = 0; k < n; k++) {
             bytes[k] = (byte) (k % 2 == 0 ? k / 2 : 200 + k / 128);
         }
-        Both both = new Both("literals " + n);
+        Both both = new Both();
         both.load(bytes);
         both.pack(0);
         both.chunks(n, 0, 0);
@@ -165,25 +168,17 @@ public final class PlainModelTest {
     // ---- the two side by side
 
     private static final class Both {
-        final String name;
-        final TagPress real = new TagPress();
+        final Press real = new Press();
         final Plain plain = new Plain();
-        int calls = 0;
-
-        Both(String name) {
-            this.name = name;
-        }
 
         void due(String call, long got, long want) {
             compared++;
-            calls++;
-            if (calls > 512) {
-                throw new IllegalStateException(name + ": this test makes too many calls");
-            }
-            if (got != want) {
-                wrong++;
-                System.out.println(name + ": " + call + " answered " + got + ", due is " + want);
-            }
+            Tests.due(call, got, want);
+        }
+
+        void due(String call, boolean got, boolean want) {
+            compared++;
+            Tests.due(call, got, want);
         }
 
         void load(byte[] bytes) {
@@ -197,23 +192,21 @@ public final class PlainModelTest {
         }
 
         void write(long eight, int n) {
-            due("write(" + eight + ", " + n + ")", real.write(eight, n) ? 1 : 0, plain.write(eight, n) ? 1 : 0);
+            due("write(" + eight + ", " + n + ")", real.write(eight, n), plain.write(eight, n));
         }
 
         void again(int m, int n) {
-            due("again(" + m + ", " + n + ")", real.again(m, n) ? 1 : 0, plain.again(m, n) ? 1 : 0);
+            due("again(" + m + ", " + n + ")", real.again(m, n), plain.again(m, n));
         }
 
         void clear() {
             real.clear();
             plain.in = new byte[0];
-            calls++;
         }
 
         void turn() {
             real.turn();
             plain.in = plain.out;
-            calls++;
         }
 
         void sum() {
@@ -235,10 +228,16 @@ public final class PlainModelTest {
             lookAtOut();
         }
 
+        /** By its SUM, as there are not enough calls for each byte; IN becomes OUT. */
+        void lookAtAllOfOut() {
+            turn();
+            sum();
+        }
+
         void lookAtOut() {
             due("place()", real.place(), plain.place);
             due("size()", real.size(), plain.out.length);
-            int step = Math.max(1, plain.out.length / 20);
+            int step = Math.max(1, plain.out.length / 12);
             for (int k = 0; k < plain.out.length; k += step) {
                 due("byteAt(" + k + ")", real.byteAt(k), plain.out[k] & 255);
             }

@@ -7,9 +7,10 @@ final class Tests {
         void run();
     }
 
-    private static final long MOST_SECONDS = 600;
-    private static String name = "";
-    private static int count = 0;
+    /** For one test; the slowest takes about one. */
+    private static final int MOST_SECONDS = 60;
+    private static volatile String name = "";
+    private static volatile int count = 0;
     private static int failed = 0;
     private static boolean failing = false;
 
@@ -18,17 +19,25 @@ final class Tests {
 
     /** A call that never ends has to fail as well. */
     static void begin() {
-        Thread watch = new Thread(() -> {
+        Thread watch = new Thread(Tests::watch);
+        watch.setDaemon(true);
+        watch.start();
+    }
+
+    private static void watch() {
+        int seen = count;
+        int seconds = 0;
+        while (seconds < MOST_SECONDS) {
             try {
-                Thread.sleep(1000 * MOST_SECONDS);
+                Thread.sleep(1000);
             } catch (InterruptedException e) {
                 return;
             }
-            System.out.println("no end in '" + name + "'");
-            Runtime.getRuntime().halt(1);
-        });
-        watch.setDaemon(true);
-        watch.start();
+            seconds = seen == count ? seconds + 1 : 0;
+            seen = count;
+        }
+        System.out.println("'" + name + "': no end after " + MOST_SECONDS + " seconds");
+        Runtime.getRuntime().halt(1);
     }
 
     static void test(String sentence, Body body) {
