@@ -224,10 +224,11 @@ public final class ChunksTest {
             });
             Tests.test("8: -1, refused, when with KIND 1 there would be 10,001, way " + way, () -> {
                 Press x = Press.unlike(9983);
+                int place = x.place();
                 Tests.due("chunks", x.chunks(10000, each, 0), -1);
                 Tests.due("size()", x.size(), 9983);
                 Tests.due("byteAt(0)", x.byteAt(0), 0);
-                x.duePlace(x.place());
+                x.duePlace(place);
             });
             Tests.test("8: -1, refused, when the chunk fits but not what is behind it, way " + way, () -> {
                 Press x = Press.unlike(9982);

@@ -189,6 +189,11 @@ public final class PackTest {
         packs("a longer one two further does not count", 3,
             "'yzab1abcdef2yzabcdef'", "20 44 'yzab1abcdef2' 1 12 1 9");
         packs("the longest one further may begin at the place itself", 3, "'bbbb1bbbbbbbb'", "13 20 'bbbb1b' 13 1");
+        packs("the longest one further counts, though one of 4 is nearer", 3,
+            "'zabc1abcdef2abcd3zabcdef'", "24 44 'zabc1abcdef2' 1 7 4 '3z' 9 13");
+        packs("the longest one further counts, though one of 8 is nearer", 3,
+            "'zabcdefg1abcdefghij2abcdefgh3zabcdefghij'", "40 32 'zabcdefg1' 13 8 12 'hij2' 17 11 4 '3z' 25 21");
+        packs("the longest one further may be from place 0", 3, "'abcde1zabc2zabcde'", "17 44 'abcde1zabc2z' 5 12");
         packs("otherwise as way 2: the longest", 3, "'abcdefghi1abcdefgh2abcdefghi'", "28 36 'abcdefghi1' 17 10 0 '2' 21 19");
         packs("otherwise as way 2: of those as long the nearest", 3, "'abcd1abcd2abcd3abcd'", "19 16 'abcd1' 1 5 0 '2' 1 5 0 '3' 1 5");
     }
